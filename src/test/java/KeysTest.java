@@ -12,6 +12,17 @@ public final class KeysTest {
         objectsAreApart();
         rankAndKeyAt();
         deadKeysDoNotCount();
+        newObjectRefuses();
+        leastAndGreatestKeyAsTheLastOnes();
+        sizeStepByStep();
+        dropOfADeadKeyLeavesRoomForAnother();
+        comesAliveInAllThreeWays();
+        for (Libraries.Known known : Libraries.all()) {
+            containsIn(known);
+            rankIn(known);
+            keyAtIn(known);
+            removalOfAllIn(known);
+        }
         checks.end();
     }
 
@@ -157,5 +168,147 @@ public final class KeysTest {
         checks.due("keyAt(0)", spur.keyAt(0), 2);
         checks.due("keyAt(2)", spur.keyAt(2), 5);
         checks.dueThrow("keyAt(4)", IndexOutOfBoundsException.class, () -> spur.keyAt(4));
+    }
+
+    private static void newObjectRefuses() {
+        ScapegoatSpur spur = new ScapegoatSpur();
+        Class<java.util.NoSuchElementException> element = java.util.NoSuchElementException.class;
+        checks.dueThrow("keyAt(0)", IndexOutOfBoundsException.class, () -> spur.keyAt(0));
+        checks.dueThrow("depth(0)", element, () -> spur.depth(0));
+        checks.dueThrow("weight(0)", element, () -> spur.weight(0));
+        checks.dueThrow("depthInTurning(0)", element, () -> spur.depthInTurning(0));
+        checks.dueThrow("turningRoot()", element, () -> spur.turningRoot());
+        checks.dueThrow("partOf(0)", element, () -> spur.partOf(0));
+        checks.dueThrow("entry(0, 0)", element, () -> spur.entry(0, 0));
+        checks.dueThrow("pointDepth(0, 0)", element, () -> spur.pointDepth(0, 0));
+        checks.dueThrow("nearest(0, 0)", element, () -> spur.nearest(0, 0));
+        checks.due("remove(0)", spur.remove(0), false);
+        checks.due("removePoint(0, 0)", spur.removePoint(0, 0), false);
+    }
+
+    private static void leastAndGreatestKeyAsTheLastOnes() {
+        for (int key : new int[] {-999, 999}) {
+            ScapegoatSpur spur = withKeys(1, 99);
+            checks.due("add(" + key + "), the 100th", spur.add(key), true);
+            checks.dueThrow("add(" + -key + "), the 101st", IllegalStateException.class, () -> spur.add(-key));
+            checks.due("add(" + key + ") again", spur.add(key), false);
+            checks.due("remove(" + key + ")", spur.remove(key), true);
+            checks.due("add(" + -key + "), the 100th", spur.add(-key), true);
+            checks.dueThrow("add(" + key + "), the 101st", IllegalStateException.class, () -> spur.add(key));
+            checks.due("size()", spur.size(), 100);
+        }
+    }
+
+    private static void sizeStepByStep() {
+        ScapegoatSpur spur = new ScapegoatSpur();
+        for (int count = 0; count < 100; count++) {
+            checks.due("size()", spur.size(), count);
+            checks.due("add", spur.add(Libraries.KEYS[count * 37 % 100]), true);
+            checks.due("nodes()", spur.nodes(), count + 1);
+            checks.due("entries()", spur.entries(), count + 1);
+        }
+        for (int count = 100; count > 0; count--) {
+            checks.due("size()", spur.size(), count);
+            checks.due("remove", spur.remove(Libraries.KEYS[count * 73 % 100]), true);
+        }
+        checks.due("size() at the end", spur.size(), 0);
+    }
+
+    /** When the dead are dropped, a key that was one of them is as new. */
+    private static void dropOfADeadKeyLeavesRoomForAnother() {
+        ScapegoatSpur spur = withKeys(1, 100);
+        for (int key = 1; key <= 51; key++) {
+            spur.remove(key);
+        }
+        checks.due("size()", spur.size(), 49);
+        checks.due("nodes(), dropped", spur.nodes(), 49);
+        checks.due("add(1), dropped before", spur.add(1), true);
+        checks.due("nodes()", spur.nodes(), 50);
+        checks.due("entries()", spur.entries(), 50);
+        checks.due("partOf(1), a part of its own and one more", spur.partOf(1), 1);
+    }
+
+    private static void comesAliveInAllThreeWays() {
+        ScapegoatSpur spur = withKeys(1, 6);
+        spur.remove(1);
+        checks.due("add(1)", spur.add(1), true);
+        checks.due("add(1) again", spur.add(1), false);
+        checks.due("contains(1)", spur.contains(1), true);
+        checks.due("rank(2)", spur.rank(2), 1);
+        checks.due("keyAt(0)", spur.keyAt(0), 1);
+        checks.due("depthInTurning(1)", spur.depthInTurning(1), 2);
+        spur.remove(2);
+        spur.remove(3);
+        spur.remove(4);
+        checks.due("nodes(), 3 dead of 6", spur.nodes(), 6);
+        checks.due("entries(), 3 dead of 6", spur.entries(), 6);
+        spur.remove(5);
+        checks.due("nodes(), 4 dead of 6", spur.nodes(), 2);
+        checks.due("entries(), 4 dead of 6", spur.entries(), 2);
+        checks.due("contains(1) then", spur.contains(1), true);
+    }
+
+    private static int[] numbers() {
+        int[] numbers = new int[2003 + 4];
+        for (int i = 0; i < 2003; i++) {
+            numbers[i] = i - 1001;
+        }
+        numbers[2003] = Integer.MIN_VALUE;
+        numbers[2004] = Integer.MIN_VALUE + 1;
+        numbers[2005] = Integer.MAX_VALUE - 1;
+        numbers[2006] = Integer.MAX_VALUE;
+        return numbers;
+    }
+
+    private static void containsIn(Libraries.Known known) {
+        ScapegoatSpur spur = known.make();
+        int[] keys = known.keys();
+        for (int number : numbers()) {
+            checks.due(known.name + ": contains(" + number + ")", spur.contains(number), Libraries.has(keys, number));
+        }
+    }
+
+    private static void rankIn(Libraries.Known known) {
+        ScapegoatSpur spur = known.make();
+        int[] keys = known.keys();
+        for (int number : numbers()) {
+            int less = 0;
+            for (int key : keys) {
+                less += key < number ? 1 : 0;
+            }
+            checks.due(known.name + ": rank(" + number + ")", spur.rank(number), less);
+        }
+    }
+
+    private static void keyAtIn(Libraries.Known known) {
+        ScapegoatSpur spur = known.make();
+        int[] keys = known.keys();
+        checks.due(known.name + ": size()", spur.size(), keys.length);
+        for (int rank = 0; rank < keys.length; rank++) {
+            checks.due(known.name + ": keyAt(" + rank + ")", spur.keyAt(rank), keys[rank]);
+        }
+        for (int rank : new int[] {-1, keys.length, Integer.MIN_VALUE, Integer.MAX_VALUE}) {
+            checks.dueThrow(known.name + ": keyAt(" + rank + ")", IndexOutOfBoundsException.class,
+                    () -> spur.keyAt(rank));
+        }
+    }
+
+    private static void removalOfAllIn(Libraries.Known known) {
+        ScapegoatSpur spur = known.make();
+        int left = known.keys().length;
+        for (int key : known.keys()) {
+            checks.due(known.name + ": remove(" + key + ")", spur.remove(key), true);
+            left--;
+            checks.due(known.name + ": size()", spur.size(), left);
+            checks.due(known.name + ": contains(" + key + ")", spur.contains(key), false);
+            checks.due(known.name + ": rank of all", spur.rank(Integer.MAX_VALUE), left);
+            checks.dueThrow(known.name + ": depthInTurning(" + key + ")", java.util.NoSuchElementException.class,
+                    () -> spur.depthInTurning(key));
+            checks.due(known.name + ": remove(" + key + ") again", spur.remove(key), false);
+        }
+        checks.due(known.name + ": nodes()", spur.nodes(), 0);
+        checks.due(known.name + ": entries()", spur.entries(), 0);
+        checks.due(known.name + ": add(0) then", spur.add(0), true);
+        checks.due(known.name + ": nodes() then", spur.nodes(), 1);
     }
 }

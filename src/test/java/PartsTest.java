@@ -1,3 +1,4 @@
+import java.util.Arrays;
 import java.util.NoSuchElementException;
 
 /** Promises 19 to 22: the sorted parts. */
@@ -11,6 +12,16 @@ public final class PartsTest {
         deadEntries();
         dealtOutAnew();
         greatestPart();
+        deadEntriesAreMerged();
+        lastKeyGone();
+        mergesUpToTheMostEntries();
+        for (int living = 0; living <= 49; living++) {
+            dealtOutByTheDrop(living);
+        }
+        dealtOutByTheGreatestDrop();
+        for (Libraries.Known known : Libraries.all()) {
+            partsIn(known);
+        }
         checks.end();
     }
 
@@ -153,5 +164,122 @@ public final class PartsTest {
         }
         checks.due("entries() then", spur.entries(), 175);
         checks.due("nodes() then", spur.nodes(), 175);
+    }
+
+    private static void deadEntriesAreMerged() {
+        ScapegoatSpur spur = with(1, 2);
+        spur.remove(1);
+        spur.add(3);
+        spur.add(4);
+        part(spur, 2, 1, 2, 3, 4);
+        checks.due("contains(1), dead and merged", spur.contains(1), false);
+        checks.due("keyAt(0)", spur.keyAt(0), 2);
+        checks.due("add(1)", spur.add(1), true);
+        checks.due("contains(1), alive and merged", spur.contains(1), true);
+        part(spur, 2, 1, 2, 3, 4);
+        noPart(spur, 0);
+        checks.due("merges()", spur.merges(), 3);
+        spur.remove(1);
+        spur.remove(2);
+        part(spur, 2, 1, 2, 3, 4);
+        spur.remove(3);
+        part(spur, 0, 4);
+        noPart(spur, 1);
+        noPart(spur, 2);
+        checks.due("entries()", spur.entries(), 1);
+    }
+
+    private static void lastKeyGone() {
+        ScapegoatSpur spur = with(1, 2);
+        spur.remove(1);
+        checks.due("entries(), one of two dead", spur.entries(), 2);
+        checks.due("partOf(1), dead", spur.partOf(1), 1);
+        spur.remove(2);
+        checks.due("entries()", spur.entries(), 0);
+        noPart(spur, 0);
+        noPart(spur, 1);
+        checks.dueThrow("partOf(2)", NoSuchElementException.class, () -> spur.partOf(2));
+        checks.due("merges() stays", spur.merges(), 1);
+        spur.add(2);
+        part(spur, 0, 2);
+        checks.due("merges() then", spur.merges(), 1);
+    }
+
+    /** As long as nothing is dropped, every addition of a new key makes one entry, and each merge makes one part fewer. */
+    private static void mergesUpToTheMostEntries() {
+        Libraries.Known fullest = Libraries.fullest();
+        for (int calls = 0; calls <= 298; calls++) {
+            ScapegoatSpur spur = fullest.makeBy(calls);
+            int entries = spur.entries();
+            checks.due("merges() of " + entries, spur.merges(), entries - Integer.bitCount(entries));
+            checks.due("nodes()", spur.nodes(), entries);
+        }
+        checks.due("entries() of the fullest", fullest.make().entries(), 199);
+        checks.due("merges() of the fullest", fullest.make().merges(), 194);
+    }
+
+    /** One part for each binary digit 1 of their count, the greatest with the lowest keys, and no other part. */
+    private static void dealtOut(ScapegoatSpur spur, int[] keys) {
+        checks.due("entries()", spur.entries(), keys.length);
+        int from = 0;
+        for (int part = 8; part >= 0; part--) {
+            if ((keys.length >> part) % 2 == 1) {
+                part(spur, part, Arrays.copyOfRange(keys, from, from + (1 << part)));
+                from += 1 << part;
+            } else {
+                noPart(spur, part);
+            }
+        }
+    }
+
+    private static void dealtOutByTheDrop(int living) {
+        ScapegoatSpur spur = new ScapegoatSpur();
+        int count = 2 * living + 1;
+        for (int key = count; key >= 1; key--) {
+            spur.add(key);
+        }
+        int merges = spur.merges();
+        int[] left = new int[living];
+        for (int i = 0; i < living; i++) {
+            spur.remove(2 * i + 1);
+            left[i] = 2 * i + 2;
+        }
+        checks.due("entries() of " + count, spur.entries(), count);
+        spur.remove(count);
+        dealtOut(spur, left);
+        checks.due("merges() stays", spur.merges(), merges);
+        spur.add(1000 - count);
+        checks.due("merges() then", spur.merges(), merges + Integer.numberOfTrailingZeros(living + 1));
+    }
+
+    private static void dealtOutByTheGreatestDrop() {
+        ScapegoatSpur spur = Libraries.fullest().make();
+        int[] keys = Libraries.fullest().keys();
+        spur.remove(keys[99]);
+        dealtOut(spur, Arrays.copyOf(keys, 99));
+        checks.dueThrow("partOf a key dropped", NoSuchElementException.class,
+                () -> spur.partOf(Libraries.fullest().deadKeys()[0]));
+    }
+
+    /** Each part that the count of the entries asks for is there, ascending, and has just the keys that are due. */
+    private static void partsIn(Libraries.Known known) {
+        ScapegoatSpur spur = known.make();
+        int count = known.keys().length + known.deadKeys().length;
+        checks.due(known.name + ": entries()", spur.entries(), count);
+        int found = 0;
+        for (int part = 0; part <= 8; part++) {
+            int number = part;
+            int size = (count >> part) % 2 == 1 ? 1 << part : 0;
+            for (int place = 0; place < size; place++) {
+                int key = spur.entry(part, place);
+                checks.due(known.name + ": partOf(" + key + ")", spur.partOf(key), part);
+                checks.that(known.name + ": " + key + " is not in order", place == 0 || spur.entry(part, place - 1) < key);
+                found += Libraries.has(known.keys(), key) || Libraries.has(known.deadKeys(), key) ? 1 : 0;
+            }
+            checks.dueThrow(known.name + ": entry(" + part + ", " + size + ")",
+                    size == 0 ? NoSuchElementException.class : IndexOutOfBoundsException.class,
+                    () -> spur.entry(number, size));
+        }
+        checks.due(known.name + ": how many entries have a key that is due", found, count);
     }
 }

@@ -12,10 +12,22 @@ public final class TurningTreeTest {
             singleTurnBelowTwice(sign);
             removalFromTheGreaterSide(sign);
             removalOfLeafAndOfOnlyChild(sign);
+            twelveInARow(sign);
+            justThreeTimesAfterRemoval(sign);
+            otherSubtreeTakesThePlace(sign);
+            heirIsTheChild(sign);
+            heirLeavesItsSubtree(sign);
         }
+        heirOfEqualWeightsLeavesItsSubtree();
+        deadKeyComesAsALeaf();
+        turnsStayWhenAllIsGone();
         removalWithEqualWeights();
         balancingStartsAboveTheHeir();
         noSuchKey();
+        for (Libraries.Known known : Libraries.all()) {
+            depthsIn(known);
+        }
+        laidOutWhenFull();
         checks.end();
     }
 
@@ -126,5 +138,123 @@ public final class TurningTreeTest {
         for (int key : keys) {
             checks.dueThrow("depthInTurning(" + key + ")", NoSuchElementException.class, () -> spur.depthInTurning(key));
         }
+    }
+
+    /** With 8 and with 12 two nodes are turned by one addition, the lower one first. */
+    private static void twelveInARow(int sign) {
+        ScapegoatSpur spur = new ScapegoatSpur();
+        int[] due = {0, 0, 0, 1, 1, 2, 2, 4, 4, 5, 5, 7};
+        for (int key = 1; key <= 12; key++) {
+            spur.add(sign * key);
+            checks.due("turns() of " + key, spur.turns(), due[key - 1]);
+            if (key == 8) {
+                depths(spur, sign, new int[] {1, 2, 3, 4, 5, 6, 7, 8}, new int[] {2, 1, 2, 0, 2, 1, 2, 3});
+            }
+        }
+        checks.due("turningRoot() of 12", spur.turningRoot(), sign * 4);
+        depths(spur, sign, new int[] {1, 2, 3, 4, 5, 6, 7, 8, 9, 10, 11, 12},
+                new int[] {2, 1, 2, 0, 3, 2, 3, 1, 3, 2, 3, 4});
+    }
+
+    /** Without 5 the loads at 10 are 1 and 3, or 1 and 4. */
+    private static void justThreeTimesAfterRemoval(int sign) {
+        ScapegoatSpur spur = with(sign, 10, 5, 20, 15);
+        spur.remove(sign * 5);
+        checks.due("turns(), just 3 times", spur.turns(), 0);
+        depths(spur, sign, new int[] {10, 20, 15}, new int[] {0, 1, 2});
+        ScapegoatSpur other = with(sign, 10, 5, 20, 15, 25);
+        other.remove(sign * 5);
+        checks.due("turns(), more than 3 times", other.turns(), 1);
+        depths(other, sign, new int[] {20, 10, 15, 25}, new int[] {0, 1, 2, 1});
+    }
+
+    private static void otherSubtreeTakesThePlace(int sign) {
+        ScapegoatSpur spur = with(sign, 50, 75, 60);
+        spur.remove(sign * 50);
+        checks.due("turningRoot()", spur.turningRoot(), sign * 75);
+        checks.due("depthInTurning(60)", spur.depthInTurning(sign * 60), 1);
+        ScapegoatSpur other = with(sign, 50, 25, 75, 10, 15);
+        other.remove(sign * 25);
+        depths(other, sign, new int[] {50, 10, 15, 75}, new int[] {0, 1, 2, 1});
+        checks.due("turns()", other.turns(), 0);
+    }
+
+    /** The weights are 2 and 1; 25, which has no child towards 50, takes its place. */
+    private static void heirIsTheChild(int sign) {
+        ScapegoatSpur spur = with(sign, 50, 25, 75, 12);
+        spur.remove(sign * 50);
+        checks.due("turningRoot()", spur.turningRoot(), sign * 25);
+        depths(spur, sign, new int[] {12, 75}, new int[] {1, 1});
+    }
+
+    private static void heirLeavesItsSubtree(int sign) {
+        ScapegoatSpur spur = with(sign, 50, 25, 75, 12, 37, 30);
+        spur.remove(sign * 50);
+        checks.due("turningRoot()", spur.turningRoot(), sign * 37);
+        depths(spur, sign, new int[] {25, 12, 30, 75}, new int[] {1, 2, 2, 1});
+        checks.due("turns()", spur.turns(), 0);
+    }
+
+    private static void heirOfEqualWeightsLeavesItsSubtree() {
+        ScapegoatSpur spur = with(1, 50, 25, 75, 12, 37, 62, 87, 30, 65);
+        spur.remove(50);
+        checks.due("turningRoot()", spur.turningRoot(), 62);
+        depths(spur, 1, new int[] {25, 12, 37, 30, 75, 65, 87}, new int[] {1, 2, 2, 3, 1, 2, 2});
+        ScapegoatSpur three = with(1, 50, 25, 75);
+        three.remove(50);
+        checks.due("turningRoot() of two", three.turningRoot(), 75);
+        checks.due("depthInTurning(25) of two", three.depthInTurning(25), 1);
+    }
+
+    /** In the scapegoat tree 1 stays the root, alive or dead; here it goes, and comes again as a leaf. */
+    private static void deadKeyComesAsALeaf() {
+        ScapegoatSpur spur = with(1, 1, 2, 3);
+        spur.remove(1);
+        checks.due("turningRoot()", spur.turningRoot(), 2);
+        checks.due("depth(1), dead", spur.depth(1), 0);
+        checks.dueThrow("depthInTurning(1), dead", NoSuchElementException.class, () -> spur.depthInTurning(1));
+        spur.add(1);
+        depths(spur, 1, new int[] {1, 2, 3}, new int[] {1, 0, 1});
+        checks.due("depth(1), alive", spur.depth(1), 0);
+    }
+
+    private static void turnsStayWhenAllIsGone() {
+        ScapegoatSpur spur = with(1, 1, 2, 3, 4);
+        for (int key = 1; key <= 4; key++) {
+            spur.remove(key);
+        }
+        checks.due("turns()", spur.turns(), 1);
+        checks.dueThrow("turningRoot()", NoSuchElementException.class, () -> spur.turningRoot());
+        spur.add(-999);
+        checks.due("turningRoot() of the least", spur.turningRoot(), -999);
+        spur.remove(-999);
+        spur.add(999);
+        checks.due("turningRoot() of the greatest", spur.turningRoot(), 999);
+        checks.due("turns() then", spur.turns(), 1);
+    }
+
+    private static void depthsIn(Libraries.Known known) {
+        ScapegoatSpur spur = known.make();
+        int roots = 0;
+        for (int number = -1001; number <= 1001; number++) {
+            int key = number;
+            if (!Libraries.has(known.keys(), key)) {
+                checks.dueThrow(known.name + ": depthInTurning(" + key + ")", NoSuchElementException.class,
+                        () -> spur.depthInTurning(key));
+            } else if (spur.depthInTurning(key) == 0) {
+                roots++;
+                checks.due(known.name + ": turningRoot()", spur.turningRoot(), key);
+            }
+        }
+        checks.due(known.name + ": how many roots", roots, Math.min(1, known.keys().length));
+    }
+
+    private static void laidOutWhenFull() {
+        ScapegoatSpur spur = Libraries.full().make();
+        for (Layout node : Layout.ofKeys(Libraries.KEYS)) {
+            checks.due("depthInTurning(" + node.number + ")", spur.depthInTurning(node.number), node.depth);
+        }
+        checks.due("turns() of 100", spur.turns(), 0);
+        checks.due("turningRoot() of 100", spur.turningRoot(), 1);
     }
 }
