@@ -15,7 +15,7 @@ public final class KeysTest {
         newObjectRefuses();
         leastAndGreatestKeyAsTheLastOnes();
         sizeStepByStep();
-        dropOfADeadKeyLeavesRoomForAnother();
+        droppedKeyIsNew();
         comesAliveInAllThreeWays();
         for (Libraries.Known known : Libraries.all()) {
             containsIn(known);
@@ -214,8 +214,8 @@ public final class KeysTest {
         checks.due("size() at the end", spur.size(), 0);
     }
 
-    /** When the dead are dropped, a key that was one of them is as new. */
-    private static void dropOfADeadKeyLeavesRoomForAnother() {
+    /** The 49 keys left are in the parts 5, 4 and 0; so 1, which was dropped, is merged with the entry of the last one. */
+    private static void droppedKeyIsNew() {
         ScapegoatSpur spur = withKeys(1, 100);
         for (int key = 1; key <= 51; key++) {
             spur.remove(key);
@@ -225,7 +225,7 @@ public final class KeysTest {
         checks.due("add(1), dropped before", spur.add(1), true);
         checks.due("nodes()", spur.nodes(), 50);
         checks.due("entries()", spur.entries(), 50);
-        checks.due("partOf(1), a part of its own and one more", spur.partOf(1), 1);
+        checks.due("partOf(1)", spur.partOf(1), 1);
     }
 
     private static void comesAliveInAllThreeWays() {

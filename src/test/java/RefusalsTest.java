@@ -39,9 +39,9 @@ public final class RefusalsTest {
     }
 
     private void all() {
-        checks.due(known.name + ": keys missing", Libraries.has(known.keys(), MISSING_KEY)
+        checks.due(known.name + ": has a node of the missing key", Libraries.has(known.keys(), MISSING_KEY)
                 || Libraries.has(known.deadKeys(), MISSING_KEY), false);
-        checks.due(known.name + ": points missing", Libraries.has(known.points(), MISSING_POINT)
+        checks.due(known.name + ": has a node of the missing point", Libraries.has(known.points(), MISSING_POINT)
                 || Libraries.has(known.deadPoints(), MISSING_POINT), false);
         askingChangesNothing();
         keys();
