@@ -76,12 +76,19 @@ public final class FaceTest {
             checks.that(one + " is not private and static",
                     Modifier.isPrivate(one.getModifiers()) && Modifier.isStatic(one.getModifiers()));
             checks.that(one + " has too many fields", one.getDeclaredFields().length <= 20);
-            for (Method method : one.getDeclaredMethods()) {
-                checks.that(method + " bears the name of a public one", !publicNames.contains(method.getName()));
-            }
+            methodsOwnTheirNames(one, publicNames);
             staticFieldsAreFinal(one);
         }
+        methodsOwnTheirNames(ScapegoatSpur.class, publicNames);
         staticFieldsAreFinal(ScapegoatSpur.class);
+    }
+
+    private static void methodsOwnTheirNames(Class<?> one, TreeSet<String> publicNames) {
+        for (Method method : one.getDeclaredMethods()) {
+            checks.that(method + " bears the name of a public one",
+                    Modifier.isPublic(method.getModifiers()) || !publicNames.contains(method.getName()));
+            checks.that(method + " takes too many parameters", method.getParameterCount() <= 7);
+        }
     }
 
     private static void staticFieldsAreFinal(Class<?> one) {
